@@ -47,6 +47,9 @@ public final class PromisesTest {
         settings();
         days();
         daysWithTrips();
+        daysAtTheLimit();
+        daysAddUp();
+        daysOfTheLeastWeights();
         daysWithDogs();
         tips();
         tipsOfOneWeekOnly();
@@ -67,6 +70,13 @@ public final class PromisesTest {
         counts();
         undoing();
         undoingEverything();
+        undoingEachKind();
+        undoingOrders();
+        addingAgain();
+        weekOfANewHouse();
+        undoingTheWeek();
+        undoingTheOrder();
+        fullTown();
         typing();
         clearing();
         formFaults();
@@ -358,6 +368,88 @@ public final class PromisesTest {
         is("effort of all", t.carrierOf(0, 5), 6 * 120 + sunday);
     }
 
+    private static void daysAtTheLimit() {
+        promise = 11;
+        PaperRounds t = new PaperRounds();
+        t.corner(0, 10, 0, 0);
+        t.house(1, 2, 0);
+        t.house(1, 3, 0);
+        t.carrier(0, 10);
+        t.give(0, 0);
+        t.give(1, 0);
+        t.set(0, 2);
+        t.set(1, 3);
+        is("as heavy as the limit", t.days(1), 5);
+        is("one trip", t.carrierOf(0, 4), 1);
+        t.set(0, 3);
+        is("heavier", t.days(1), 5);
+        is("two trips more", t.carrierOf(0, 4), 3);
+        t.house(1, 5, 0);
+        t.give(2, 0);
+        t.set(0, 2);
+        is("a house as heavy as the limit", t.days(1), 10);
+        is("two trips more again", t.carrierOf(0, 4), 5);
+        is("Sundays weigh 3", t.round(0, 6, 2), 5);
+        is("other days 2", t.round(0, 5, 2), 10);
+        is("effort of five trips", t.carrierOf(0, 5), 5 * 20);
+    }
+
+    private static void daysOfTheLeastWeights() {
+        promise = 11;
+        PaperRounds t = new PaperRounds();
+        t.corner(0, 1, 1, 0);
+        t.corner(1, 1, 1, 0);
+        t.corner(0, 1, 100, 0);
+        t.house(2, 1, 0);
+        t.carrier(0, 10);
+        t.carrier(1, 10);
+        t.give(0, 0);
+        t.set(0, 1);
+        is("weight 1", t.days(1), 1);
+        // Up 1 with 1: 1 (1.1); flat.
+        is("up by 1", t.carrierOf(0, 5), (2 + 1) + 2);
+        t.corner(1, 1, 0, 0);
+        t.house(4, 1, 0);
+        t.give(1, 1);
+        t.days(1);
+        is("down by 1", t.carrierOf(1, 5), (2 + 1) + (2 + 1));
+        t.house(3, 1, 0);
+        t.give(2, 0);
+        t.days(1);
+        is("up by 100", t.carrierOf(0, 5), 3 * 5 + (2 + 110));
+        t.give(2, 1);
+        t.days(1);
+        is("up by 100 with a cart", t.carrierOf(1, 5), 3 * 6 + (2 + 105));
+    }
+
+    private static void daysAddUp() {
+        promise = 11;
+        PaperRounds t = new PaperRounds();
+        t.corner(0, 3, 10, 0);
+        t.house(1, 1, 0);
+        t.house(1, 2, 0);
+        t.house(1, 4, 0);
+        t.carrier(0, 100);
+        t.give(0, 0);
+        t.give(1, 0);
+        is("one day", t.days(1), 3);
+        is("two houses of one corner", t.carrierOf(0, 5), 6 + 10 * (10 + 9) / 10);
+        t.dog(0, 2, 0);
+        t.dog(1, 2, 1);
+        t.pause(2, 1, 3);
+        is("five days", t.days(5), 3 * 1 + 2 * 2);
+        is("returned of the first", t.houseOf(0, 8), 2);
+        is("returned of the second", t.houseOf(1, 8), 6);
+        is("paused", t.houseOf(2, 7), 12);
+        is("lost", t.houseOf(2, 9), 12);
+        is("complaints of all", t.count(7), 2 + 3 + 3);
+        is("returned of all", t.account(3), 8);
+        is("paused of all", t.account(2), 12);
+        is("lost of all", t.account(5), 12);
+        is("delivered of all", t.account(1), 10);
+        is("all", t.account(0), 42);
+    }
+
     private static void daysWithDogs() {
         promise = 11;
         PaperRounds t = new PaperRounds();
@@ -536,6 +628,12 @@ public final class PromisesTest {
         is("half", t.shareBits(0), Float.floatToIntBits(0.5f));
         t.days(1);
         is("two of three", t.shareBits(0), Float.floatToIntBits(6.0f / 9.0f));
+        t.dog(0, 2, 0);
+        t.days(1);
+        is("with the returned ones", t.shareBits(0), Float.floatToIntBits(6.0f / 12.0f));
+        t.giveNone(0);
+        t.days(1);
+        is("with the lost ones", t.shareBits(0), Float.floatToIntBits(6.0f / 15.0f));
         is("house 1", t.shareBits(1), INVALID);
         is("house -1", t.shareBits(-1), INVALID);
         PaperRounds all = new PaperRounds();
@@ -562,6 +660,10 @@ public final class PromisesTest {
         is("no house", t.meanBits(), NOT_FOUND);
         t.house(0, 3, 0);
         is("no papers", t.meanBits(), NOT_FOUND);
+        PaperRounds single = new PaperRounds();
+        single.house(0, 1, 0);
+        single.days(1);
+        is("one paper", single.meanBits(), 0);
         t.carrier(0, 500);
         t.days(1);
         is("zero", t.meanBits(), 0);
@@ -1001,6 +1103,340 @@ public final class PromisesTest {
         is("nothing of its papers", names.shareBits(0), NOT_FOUND);
     }
 
+    // A town in which every answer that a change can change is something else than at first.
+    private static PaperRounds busyTown() {
+        PaperRounds t = new PaperRounds();
+        t.corner(0, 10, 20, 0);
+        t.corner(1, 5, 7, 1);
+        t.corner(0, 8, 30, 0);
+        t.house(1, 2, 101);
+        t.house(2, 3, 60);
+        t.house(3, 1, 40);
+        t.carrier(0, 16);
+        t.carrier(1, 25);
+        t.give(0, 0);
+        t.give(1, 0);
+        t.give(2, 1);
+        t.dog(0, 4, 3);
+        t.dog(2, 5, 1);
+        t.biscuits(0, 1);
+        t.biscuits(1, 3);
+        t.set(0, 4);
+        t.pause(1, 2, 3);
+        t.days(9);
+        t.pause(0, 11, 12);
+        return t;
+    }
+
+    // Every answer about the town but that of the history; the text has answers of its own.
+    private static int[] picture(PaperRounds t) {
+        int[] answers = new int[260];
+        int at = 0;
+        for (int what = 0; what <= 21; what++) {
+            answers[at++] = what == 9 || what == 10 ? 0 : t.count(what);
+        }
+        for (int what = 0; what <= 5; what++) {
+            answers[at++] = t.account(what);
+        }
+        for (int corner = 0; corner <= 4; corner++) {
+            for (int what = 0; what <= 6; what++) {
+                answers[at++] = t.cornerOf(corner, what);
+            }
+        }
+        for (int house = 0; house <= 3; house++) {
+            for (int what = 0; what <= 11; what++) {
+                answers[at++] = t.houseOf(house, what);
+            }
+            answers[at++] = t.shareBits(house);
+            answers[at++] = t.nextDog(house);
+            answers[at++] = t.lightest(house, 900);
+        }
+        answers[at++] = t.meanBits();
+        for (int carrier = 0; carrier <= 2; carrier++) {
+            for (int what = 0; what <= 7; what++) {
+                answers[at++] = t.carrierOf(carrier, what);
+            }
+            for (int index = 0; index <= 3; index++) {
+                answers[at++] = t.roundAt(carrier, index);
+            }
+            for (int what = 0; what <= 3; what++) {
+                answers[at++] = t.round(carrier, 11, what);
+                answers[at++] = t.round(carrier, 13, what);
+                answers[at++] = t.round(carrier, 902, what);
+            }
+        }
+        for (int pause = 0; pause <= 2; pause++) {
+            for (int what = 0; what <= 2; what++) {
+                answers[at++] = t.pauseOf(pause, what);
+            }
+        }
+        return answers;
+    }
+
+    private static int differences(int[] one, int[] other) {
+        int found = 0;
+        for (int i = 0; i < one.length; i++) {
+            if (one[i] != other[i]) {
+                found++;
+            }
+        }
+        return found;
+    }
+
+    private static final int KINDS = 14;
+
+    private static int change(PaperRounds t, int kind) {
+        switch (kind) {
+            case 0: return t.corner(2, 9, 3, 0);
+            case 1: return t.house(2, 4, 7);
+            case 2: return t.dog(0, 9, 8);
+            case 3: return t.dog(2, 0, 0);
+            case 4: return t.dog(1, 2, 0);
+            case 5: return t.pause(2, 9, 13);
+            case 6: return t.carrier(1, 99);
+            case 7: return t.give(0, 1);
+            case 8: return t.giveNone(1);
+            case 9: return t.biscuits(0, 44);
+            case 10: return t.set(0, 1);
+            case 11: return t.set(1, 1);
+            case 12: return t.days(1);
+            default: return t.days(6);
+        }
+    }
+
+    // After an undo the answers are those of a town that never saw the change, also a week later.
+    private static void undoingEachKind() {
+        promise = 24;
+        int[] before = picture(busyTown());
+        PaperRounds later = busyTown();
+        later.days(7);
+        int[] week = picture(later);
+        for (int kind = 0; kind < KINDS; kind++) {
+            PaperRounds seen = busyTown();
+            is("kind " + kind + " has no error", change(seen, kind) < 0 ? 1 : 0, 0);
+            is("kind " + kind + " changes something", differences(picture(seen), before) > 0 ? 1 : 0, 1);
+            PaperRounds t = busyTown();
+            change(t, kind);
+            is("undo of kind " + kind, t.undo(), 3);
+            is("answers that stay wrong after kind " + kind, differences(picture(t), before), 0);
+            t.days(7);
+            is("answers wrong a week after kind " + kind, differences(picture(t), week), 0);
+        }
+        PaperRounds all = busyTown();
+        for (int kind = 5; kind < 9; kind++) {
+            change(all, kind);
+        }
+        for (int left = 3; left >= 0; left--) {
+            is("undo of four", all.undo(), left);
+        }
+        is("answers that stay wrong after four", differences(picture(all), before), 0);
+    }
+
+    // The orders of a text are tried out and played without a trace, but for what they are to change.
+    private static void undoingOrders() {
+        promise = 28;
+        String[] texts = {"p2,9,13;", "g0,1;", "n1;", "b0,44;", "d1;", "d6;", ""};
+        int[] same = {5, 7, 8, 9, 12, 13, -1};
+        int[] before = picture(busyTown());
+        for (int i = 0; i < texts.length; i++) {
+            PaperRounds called = busyTown();
+            if (same[i] >= 0) {
+                change(called, same[i]);
+            }
+            int[] after = picture(called);
+            PaperRounds t = busyTown();
+            write(t, texts[i]);
+            is("no fault of " + texts[i], t.fault(0), NOT_FOUND);
+            is("answers wrong after a fault of " + texts[i], differences(picture(t), before), 0);
+            is("play of " + texts[i], t.play(), same[i] >= 0 ? 1 : 0);
+            is("answers wrong after a play of " + texts[i], differences(picture(t), after), 0);
+            is("undo of " + texts[i], t.undo(), 3);
+            PaperRounds u = busyTown();
+            write(u, texts[i]);
+            u.play();
+            u.undo();
+            is("answers wrong after the undo of " + texts[i], differences(picture(u), before), 0);
+            PaperRounds v = busyTown();
+            write(v, texts[i] + "n9;");
+            is("play with a fault behind " + texts[i], v.play(), NOT_POSSIBLE);
+            is("answers wrong after it", differences(picture(v), before), 0);
+        }
+    }
+
+    // What is added after an undo takes the numbers of what was undone, but nothing else of it.
+    private static void addingAgain() {
+        promise = 24;
+        PaperRounds t = new PaperRounds();
+        t.corner(0, 3, 5, 0);
+        t.carrier(0, 12);
+        t.house(1, 1, 50);
+        t.give(0, 0);
+        t.dog(0, 2, 1);
+        write(t, "d10;b0,3;p0,11,11;d1;d1;d1;d2;n0;d1;d10;");
+        is("much happens", t.play(), 10);
+        is("complaints", t.houseOf(0, 10) > 0 ? 1 : 0, 1);
+        is("paused", t.houseOf(0, 7), 1);
+        for (int left = 3; left >= 0; left--) {
+            is("undo", t.undo(), left);
+        }
+        is("no house", t.count(1), 0);
+        is("the carrier is there", t.count(2), 1);
+        is("house", t.house(0, 2, 9), 0);
+        int[] house = {0, 2, 9, NOT_FOUND, NOT_FOUND, 0, 0, 0, 0, 0, 0, 0};
+        for (int what = 0; what < house.length; what++) {
+            is("houseOf 0 " + what + " of the new house", t.houseOf(0, what), house[what]);
+        }
+        int[] carrier = {0, 12, 0, 0, 0, 0, 0, 0};
+        for (int what = 0; what < carrier.length; what++) {
+            is("carrierOf 0 " + what, t.carrierOf(0, what), carrier[what]);
+        }
+        t.days(3);
+        t.give(0, 0);
+        t.days(4);
+        is("tip after complaints of its own alone", t.count(8), 0);
+        is("nothing of the tip of the old house", t.carrierOf(0, 6), 0);
+        PaperRounds u = new PaperRounds();
+        u.corner(0, 3, 5, 0);
+        u.house(1, 1, 50);
+        u.carrier(1, 12);
+        write(u, "g0,0;b0,9;d31;");
+        u.play();
+        is("trips", u.carrierOf(0, 4), 31);
+        u.undo();
+        u.undo();
+        is("carrier", u.carrier(0, 500), 0);
+        int[] other = {0, 500, 0, 0, 0, 0, 0, 0};
+        for (int what = 0; what < other.length; what++) {
+            is("carrierOf 0 " + what + " of the new carrier", u.carrierOf(0, what), other[what]);
+        }
+    }
+
+    // What is since the last Sunday is told of the house that is there now, not of one that was undone.
+    private static void weekOfANewHouse() {
+        promise = 24;
+        PaperRounds t = new PaperRounds();
+        t.carrier(0, 100);
+        t.house(0, 1, 100);
+        t.days(2);
+        is("two complaints", t.houseOf(0, 11), 2);
+        t.undo();
+        t.undo();
+        t.house(0, 1, 90);
+        t.give(0, 0);
+        t.days(7);
+        is("no complaint of the new one", t.count(8), 90);
+        PaperRounds u = new PaperRounds();
+        u.carrier(0, 100);
+        u.house(0, 1, 100);
+        u.give(0, 0);
+        u.days(2);
+        u.undo();
+        u.undo();
+        u.undo();
+        u.house(0, 1, 90);
+        u.give(0, 0);
+        u.pause(0, 0, 6);
+        u.days(7);
+        is("nothing was delivered to the new one", u.count(8), 0);
+    }
+
+    private static void undoingTheWeek() {
+        promise = 24;
+        PaperRounds t = new PaperRounds();
+        t.house(0, 1, 100);
+        t.carrier(0, 100);
+        t.give(0, 0);
+        t.days(1);
+        is("undo", t.undo(), 3);
+        t.pause(0, 0, 6);
+        t.days(7);
+        is("nothing was delivered after all", t.count(8), 0);
+        is("undo", t.undo(), 3);
+        is("undo of the pause", t.undo(), 2);
+        t.days(2);
+        t.giveNone(0);
+        t.days(2);
+        is("undo of two complaints", t.undo(), 3);
+        is("undo of taking it away", t.undo(), 2);
+        t.days(5);
+        is("the two days before count", t.count(8), 100);
+    }
+
+    private static void undoingTheOrder() {
+        promise = 24;
+        PaperRounds t = new PaperRounds();
+        t.carrier(0, 100);
+        t.corner(0, 1, 0, 0);
+        t.corner(0, 1, 0, 0);
+        t.house(2, 1, 0);
+        t.house(1, 1, 0);
+        t.corner(1, 1, 0, 0);
+        is("undo", t.undo(), 3);
+        t.house(2, 1, 0);
+        t.house(1, 1, 0);
+        for (int house = 0; house < 4; house++) {
+            t.give(house, 0);
+        }
+        int[] wanted = {1, 3, 0, 2, NOT_FOUND};
+        for (int index = 0; index < wanted.length; index++) {
+            is("roundAt 0 " + index, t.roundAt(0, index), wanted[index]);
+        }
+        is("undo", t.undo(), 3);
+        is("corner 3", t.corner(2, 1, 0, 0), 3);
+        is("house 4", t.house(3, 1, 0), 4);
+        is("house 4 given", t.give(4, 0), 4);
+        int[] then = {1, 0, 2, 4, NOT_FOUND};
+        for (int index = 0; index < then.length; index++) {
+            is("then roundAt 0 " + index, t.roundAt(0, index), then[index]);
+        }
+    }
+
+    // As many of all as there can be.
+    private static void fullTown() {
+        promise = 23;
+        PaperRounds t = new PaperRounds();
+        for (int corner = 1; corner < 20; corner++) {
+            t.corner(corner - 1, 50, corner % 2 * 100, 0);
+        }
+        for (int house = 0; house < 24; house++) {
+            t.house(house < 19 ? 19 - house : 19, 1, 1);
+        }
+        for (int carrier = 0; carrier < 3; carrier++) {
+            t.carrier(1, 500);
+        }
+        for (int house = 0; house < 24; house++) {
+            is("give " + house, t.give(house, house % 2), house / 2 + 1);
+        }
+        for (int pause = 0; pause < 30; pause++) {
+            is("pause " + pause, t.pause(23, 2 * pause, 2 * pause), pause);
+        }
+        int[] counts = {20, 24, 3, 30, 0, 0, 1, 0, 0, 4, 0};
+        for (int what = 0; what < counts.length; what++) {
+            is("count " + what, t.count(what), counts[what]);
+        }
+        is("the farthest", t.cornerOf(19, 4), 950);
+        is("houses from the depot", t.cornerOf(0, 5), 24);
+        is("houses at the end", t.cornerOf(19, 5), 6);
+        is("first of the round", t.roundAt(0, 0), 18);
+        is("last of the round", t.roundAt(0, 11), 22);
+        is("no more", t.roundAt(0, 12), NOT_FOUND);
+        is("first of the other", t.roundAt(1, 0), 17);
+        is("no house of the third", t.roundAt(2, 0), NOT_FOUND);
+        is("lightest", t.lightest(23, 0), 0);
+        is("the last day", t.pauseOf(29, 2), 58);
+        is("a day", t.days(1), 23);
+        is("a week", t.days(6), 6 * 24 - 3);
+        is("tips", t.count(8), 24);
+        is("mean", t.meanBits(), Float.floatToIntBits(1.0f));
+        is("undo", t.undo(), 3);
+        is("day", t.count(4), 1);
+        write(t, "d1;g23,2;n23;b2,99;");
+        is("play", t.play(), 4);
+        is("again", t.play(), 4);
+        is("undo", t.undo(), 3);
+        is("biscuits", t.carrierOf(2, 2), 99);
+    }
+
     private static void typing() {
         promise = 25;
         PaperRounds t = new PaperRounds();
@@ -1093,6 +1529,12 @@ public final class PromisesTest {
         faultIs(t, "p2,1,2;", 0, 2, INVALID);
         faultIs(t, "d5;p0,4,9;", 3, 2, INVALID);
         faultIs(t, "p0,5,9;d9;p0,9,9;d1;p0,9,9;x", 20, 2, INVALID);
+        String days = "d1;".repeat(19);
+        faultIs(t, days + "d12", 57, 1, NOT_FOUND);
+        faultIs(t, days + "d1 ", 57, 1, NOT_FOUND);
+        faultIs(t, days + "n00", 57, 1, NOT_FOUND);
+        faultIs(t, days + "p", 57, 1, NOT_FOUND);
+        faultIs(t, days + "d0;", 57, 2, INVALID);
         // The first fault counts, and it depends on what was done ahead of it.
         faultIs(t, "n0;x", 0, 2, NOT_POSSIBLE);
         faultIs(t, "x;n0;", 0, 1, NOT_FOUND);
