@@ -392,6 +392,11 @@ public final class PromisesTest {
         is("Sundays weigh 3", t.round(0, 6, 2), 5);
         is("other days 2", t.round(0, 5, 2), 10);
         is("effort of five trips", t.carrierOf(0, 5), 5 * 20);
+        t.set(0, 1);
+        is("as heavy as the limit again", t.round(0, 4, 0), 1);
+        t.house(1, 1, 0);
+        t.give(3, 0);
+        is("heavier by 1", t.round(0, 4, 0), 2);
     }
 
     private static void daysOfTheLeastWeights() {
