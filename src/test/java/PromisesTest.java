@@ -653,7 +653,7 @@ public final class PromisesTest {
         few.give(0, 0);
         few.days(1);
         few.giveNone(0);
-        for (int day = 2; day <= 400; day++) {
+        for (int day = 2; day <= 250; day++) {
             few.days(1);
             is("1 of " + day, few.shareBits(0), Float.floatToIntBits(1.0f / (float) day));
         }
@@ -1490,9 +1490,9 @@ public final class PromisesTest {
             "g0;", "g0,", "g0,0", "g0,0,", "g,0;", "g0,,0;", "n;", "n0,0;", "n0", "b0;", "b0,;", "b0,1", "b0,1,",
             "0;", "d1:", "n/;", "n:;", "d1a;"};
         for (String text : bad) {
-            faultIs(t, text, 0, 1, NOT_FOUND);
+            faultIs(smallTown(), text, 0, 1, NOT_FOUND);
             if (text.length() < 50) {
-                faultIs(t, "d1;d001;" + text, 8, 1, NOT_FOUND);
+                faultIs(smallTown(), "d1;d001;" + text, 8, 1, NOT_FOUND);
             }
         }
         faultIs(t, "d1;;", 3, 1, NOT_FOUND);
@@ -1514,35 +1514,35 @@ public final class PromisesTest {
 
     private static void callFaults() {
         promise = 27;
-        PaperRounds t = smallTown();
-        faultIs(t, "d0;", 0, 2, INVALID);
-        faultIs(t, "d32;", 0, 2, INVALID);
-        faultIs(t, "d31;d999;", 4, 2, INVALID);
-        faultIs(t, "g0,0;g0,0;", 5, 2, NOT_POSSIBLE);
-        faultIs(t, "g1,0;", 0, 2, NOT_POSSIBLE);
-        faultIs(t, "g2,0;", 0, 2, INVALID);
-        faultIs(t, "g0,1;", 0, 2, INVALID);
-        faultIs(t, "n0;", 0, 2, NOT_POSSIBLE);
-        faultIs(t, "g0,0;n0;n0;", 8, 2, NOT_POSSIBLE);
-        faultIs(t, "n2;", 0, 2, INVALID);
-        faultIs(t, "b0,0;", 0, 2, INVALID);
-        faultIs(t, "b0,100;", 0, 2, INVALID);
-        faultIs(t, "b1,9;", 0, 2, INVALID);
-        faultIs(t, "b0,99;b0,99;b0,99;b0,99;b0,99;b0,6;x", 30, 2, LIMIT);
-        faultIs(t, "b0,99;b0,99;b0,99;b0,99;b0,99;b0,5;x", 35, 1, NOT_FOUND);
-        faultIs(t, "p0,1,0;", 0, 2, INVALID);
-        faultIs(t, "p2,1,2;", 0, 2, INVALID);
-        faultIs(t, "d5;p0,4,9;", 3, 2, INVALID);
-        faultIs(t, "p0,5,9;d9;p0,9,9;d1;p0,9,9;x", 20, 2, INVALID);
+        faultIs(smallTown(), "d0;", 0, 2, INVALID);
+        faultIs(smallTown(), "d32;", 0, 2, INVALID);
+        faultIs(smallTown(), "d31;d999;", 4, 2, INVALID);
+        faultIs(smallTown(), "g0,0;g0,0;", 5, 2, NOT_POSSIBLE);
+        faultIs(smallTown(), "g1,0;", 0, 2, NOT_POSSIBLE);
+        faultIs(smallTown(), "g2,0;", 0, 2, INVALID);
+        faultIs(smallTown(), "g0,1;", 0, 2, INVALID);
+        faultIs(smallTown(), "n0;", 0, 2, NOT_POSSIBLE);
+        faultIs(smallTown(), "g0,0;n0;n0;", 8, 2, NOT_POSSIBLE);
+        faultIs(smallTown(), "n2;", 0, 2, INVALID);
+        faultIs(smallTown(), "b0,0;", 0, 2, INVALID);
+        faultIs(smallTown(), "b0,100;", 0, 2, INVALID);
+        faultIs(smallTown(), "b1,9;", 0, 2, INVALID);
+        faultIs(smallTown(), "b0,99;b0,99;b0,99;b0,99;b0,99;b0,6;x", 30, 2, LIMIT);
+        faultIs(smallTown(), "b0,99;b0,99;b0,99;b0,99;b0,99;b0,5;x", 35, 1, NOT_FOUND);
+        faultIs(smallTown(), "p0,1,0;", 0, 2, INVALID);
+        faultIs(smallTown(), "p2,1,2;", 0, 2, INVALID);
+        faultIs(smallTown(), "d5;p0,4,9;", 3, 2, INVALID);
+        faultIs(smallTown(), "p0,5,9;d9;p0,9,9;d1;p0,9,9;x", 20, 2, INVALID);
         String days = "d1;".repeat(19);
-        faultIs(t, days + "d12", 57, 1, NOT_FOUND);
-        faultIs(t, days + "d1 ", 57, 1, NOT_FOUND);
-        faultIs(t, days + "n00", 57, 1, NOT_FOUND);
-        faultIs(t, days + "p", 57, 1, NOT_FOUND);
-        faultIs(t, days + "d0;", 57, 2, INVALID);
+        faultIs(smallTown(), days + "d12", 57, 1, NOT_FOUND);
+        faultIs(smallTown(), days + "d1 ", 57, 1, NOT_FOUND);
+        faultIs(smallTown(), days + "n00", 57, 1, NOT_FOUND);
+        faultIs(smallTown(), days + "p", 57, 1, NOT_FOUND);
+        faultIs(smallTown(), days + "d0;", 57, 2, INVALID);
         // The first fault counts, and it depends on what was done ahead of it.
-        faultIs(t, "n0;x", 0, 2, NOT_POSSIBLE);
-        faultIs(t, "x;n0;", 0, 1, NOT_FOUND);
+        faultIs(smallTown(), "n0;x", 0, 2, NOT_POSSIBLE);
+        faultIs(smallTown(), "x;n0;", 0, 1, NOT_FOUND);
+        PaperRounds t = smallTown();
         for (int i = 0; i < 30; i++) {
             t.pause(0, i, i);
         }
