@@ -36,6 +36,7 @@ public final class BoundaryTest {
         trips();
         biscuits();
         effort();
+        mostEffort();
         complaints();
         tips();
         tipsAtTheEdgesOfTheWeek();
@@ -490,6 +491,14 @@ public final class BoundaryTest {
         // 20 at the depot alone are one trip of no street, 20 the next one; the others are too heavy.
         is("too heavy ones are not loaded", t.round(0, 1, 1), 2 + 10 * 30 / 10);
         is("trips", t.round(0, 1, 0), 2);
+        PaperRounds together = new PaperRounds();
+        together.corner(0, 1, 10, 0);
+        together.carrier(0, 30);
+        for (int house = 0; house < 3; house++) {
+            together.house(1, 1 + house, 0);
+            together.give(house, 0);
+        }
+        is("three houses of one corner", together.round(0, 0, 1), 2 + 10 * (10 + 18) / 10);
         says("the sum over all streets that have houses of this trip beyond them");
         t.pause(3, 2, 2);
         t.set(0, 3);
@@ -498,6 +507,39 @@ public final class BoundaryTest {
         t.giveNone(2);
         is("the depot alone", t.round(0, 2, 1), 0);
         is("in a trip", t.round(0, 2, 0), 1);
+    }
+
+    // The highest hills, the heaviest papers and the longest streets there can be, on all days.
+    private static void mostEffort() {
+        says("the effort so far, when it is as great as it can be");
+        PaperRounds t = new PaperRounds();
+        for (int corner = 1; corner < 20; corner++) {
+            t.corner(corner - 1, 50, corner % 2 * 100, 0);
+        }
+        t.carrier(0, 500);
+        for (int house = 0; house < 24; house++) {
+            t.house(19, 5, 500);
+            t.give(house, 0);
+        }
+        t.set(0, 20);
+        t.set(1, 50);
+        // Ten streets go up by 100, nine down; five houses are a trip, the last one has four; on Sundays two are one.
+        int heavy = 19 * 100 + 10 * (100 * (10 + 500) / 10) + 9 * 100;
+        int light = 19 * 100 + 10 * (100 * (10 + 400) / 10) + 9 * 100;
+        is("round of a week day", t.round(0, 0, 1), 4 * heavy + light);
+        is("round of a Sunday", t.round(0, 6, 1), 12 * heavy);
+        goTo(t, 1000);
+        is("effort of 1000 days", t.carrierOf(0, 5), 858 * (4 * heavy + light) + 142 * 12 * heavy);
+        is("which is", t.carrierOf(0, 5), 313897200);
+        is("trips", t.carrierOf(0, 4), 858 * 5 + 142 * 12);
+        is("tips", t.carrierOf(0, 6), 142 * 24 * 500);
+        is("papers", t.account(0), 1000 * 24 * 5);
+        says("An object is used for at most 512 calls after it has been made.");
+        PaperRounds u = roundOf(500, 1);
+        for (int call = 5; call <= 511; call++) {
+            is("call " + call, u.days(1), 1);
+        }
+        is("call 512", u.count(4), 507);
     }
 
     private static void complaints() {

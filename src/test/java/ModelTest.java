@@ -683,11 +683,16 @@ public final class ModelTest {
 
     // ---- the runs
 
+    // What an object answers after so many calls is free, so it is not compared.
+    private static final int MOST_CALLS = 512;
+
     private static long seed = 1;
     private static PaperRounds real;
     private static Model model;
     private static int run = 0;
     private static int calls = 0;
+    private static int callsOfRun = 0;
+    private static int latest = 0;
     private static int wrong = 0;
     private static final int[] ANSWERS = new int[5];
 
@@ -715,6 +720,10 @@ public final class ModelTest {
     }
 
     private static void same(String call, int got, int want, int... a) {
+        callsOfRun++;
+        if (callsOfRun > MOST_CALLS) {
+            return;
+        }
         calls++;
         ANSWERS[want < 0 ? -want : 0]++;
         if (got != want) {
@@ -893,7 +902,22 @@ public final class ModelTest {
         }
     }
 
+    private static int callsOfTellAll() {
+        return model.now.houses.size() * 13 + model.now.carriers.size() * 33 + 22;
+    }
+
+    // The present day comes near to the last one.
+    private static void letYearsGo() {
+        for (int i = 0; i < 31; i++) {
+            int[] a = {some(29, 31), 0, 0, 0};
+            same("days", real.days(a[0]), model.change(9, a), a);
+        }
+    }
+
     private static void step(int number) {
+        if (number == 60 && run % 4 >= 2) {
+            letYearsGo();
+        }
         int pick = below(100);
         if (number < 90 && pick < 70) {
             build();
@@ -913,16 +937,19 @@ public final class ModelTest {
     }
 
     public static void main(String[] args) {
-        for (run = 1; run <= 600 && wrong < 20; run++) {
+        for (run = 1; run <= 1500 && wrong < 20; run++) {
             seed = run;
             real = new PaperRounds();
             model = new Model();
-            for (int number = 0; number < 300 && wrong < 20; number++) {
+            callsOfRun = 0;
+            // Every other run keeps enough of its calls to tell everything in the end.
+            for (int number = 0; callsOfRun < MOST_CALLS - run % 2 * callsOfTellAll() && wrong < 20; number++) {
                 step(number);
             }
             tellAll();
+            latest = Math.max(latest, model.now.day);
         }
-        System.out.println(calls + " calls, " + wrong + " wrong; answers without error " + ANSWERS[0]
+        System.out.println(calls + " calls up to the day " + latest + ", " + wrong + " wrong; answers without error " + ANSWERS[0]
             + ", errors -1 to -4: " + ANSWERS[1] + " " + ANSWERS[2] + " " + ANSWERS[3] + " " + ANSWERS[4]);
         if (wrong > 0) {
             System.exit(1);
